@@ -1265,6 +1265,7 @@ public final class HutAnswers {
         private static final int SETS = 1 << THINGS;
         private static final int LEFTS = THINGS + 1;
         private static final int MOST_TOTAL = MOST_IN_ORDER * MOST_YEARS + 1;
+        private static final int UNRECKONED = -2;
         private static final int SEEN = ((1 << MOST_IN_ORDER) * MOST_TOTAL + 63) / 64;
 
         private final Judge judge = new Judge();
@@ -1287,6 +1288,8 @@ public final class HutAnswers {
         private final int[] row = new int[MOST_IN_ORDER];
         /** Bits for which QUESTIONS were asked and years that went. */
         private final long[] seen = new long[SEEN];
+        /** By told QUESTION and years that went; NONE: BARRED. */
+        private final byte[] yearsAt = new byte[MOST_IN_ORDER * MOST_TOTAL];
         private final int[] more = new int[QUESTIONS];
         private int wanted;
         private int found;
@@ -1437,6 +1440,7 @@ public final class HutAnswers {
             }
             least = NONE;
             Arrays.fill(seen, 0L);
+            Arrays.fill(yearsAt, (byte) UNRECKONED);
             tryOrders(0, 0, 0);
             return least != NONE;
         }
@@ -1454,19 +1458,27 @@ public final class HutAnswers {
                 System.arraycopy(row, 0, bestRow, 0, MOST_IN_ORDER);
                 return;
             }
-            int age = hut.term[AGE] + total;
             for (int i = 0; i < tellings; i++) {
-                if ((used >> i & 1) != 0) {
-                    continue;
-                }
-                judge.lookAt(hut, told[i]);
-                judge.word[Judge.HER_AGE] = age;
-                int years = yearsUnlessBarred();
-                if (years != NONE && age + years <= MOST_OF_TERM[AGE]) {
+                int years = (used >> i & 1) == 0 ? yearsBehind(i, total) : NONE;
+                if (years != NONE && hut.term[AGE] + total + years <= MOST_OF_TERM[AGE]) {
                     row[place] = told[i];
                     tryOrders(place + 1, used | 1 << i, total + years);
                 }
             }
+        }
+
+        /** Of a told QUESTION as its turn comes, kept since many rows ask for the same. */
+        private int yearsBehind(int i, int total) {
+            int at = i * MOST_TOTAL + total;
+            if (at < 0 || at >= yearsAt.length) {
+                return NONE;
+            }
+            if (yearsAt[at] == UNRECKONED) {
+                judge.lookAt(hut, told[i]);
+                judge.word[Judge.HER_AGE] = hut.term[AGE] + total;
+                yearsAt[at] = (byte) yearsUnlessBarred();
+            }
+            return yearsAt[at];
         }
 
         private boolean wasSeen(int used, int total) {

@@ -153,7 +153,7 @@ public final class OracleTest {
             case 1: call("mean", odd(goal()), odd(below(2)), odd(below(2))); break;
             case 2: call("heap", odd(below(2))); break;
             case 3: call("apart", odd(below(8)), odd(below(8))); break;
-            case 4: call("order", odd(below(256) & below(256)), odd(below(4) - 1)); break;
+            case 4: call("order", odd(below(256) & (below(5) == 0 ? 255 : below(256))), odd(below(4) - 1)); break;
             case 5: lookGuess(); break;
             case 6: call("share", odd(below(6))); break;
             case 7: call("compare", odd(below(7) - 1)); break;
