@@ -249,7 +249,7 @@ public final class HutAnswers {
         switch (what) {
             case 0: return now.known;
             case 1: return now.weightOf(now.known);
-            case 2: return now.left() == 1 ? Integer.numberOfTrailingZeros(now.known) : NONE;
+            case 2: return now.knownAlone();
             default: return NONE;
         }
     }
@@ -621,6 +621,15 @@ public final class HutAnswers {
             return Integer.bitCount(known);
         }
 
+        int knownAlone() {
+            for (int t = 0; t < things; t++) {
+                if (known == 1 << t) {
+                    return t;
+                }
+            }
+            return NONE;
+        }
+
         int answerOf(int q, int t) {
             return answers[q] >> 2 * t & 3;
         }
@@ -667,14 +676,14 @@ public final class HutAnswers {
             if (!hasQuestion(q)) {
                 return NO_SUCH;
             }
-            Text law = lawInForce();
+            Text inForce = lawInForce();
             judge.lookAt(this, q);
-            int older = term[AGE] + judge.yearsBy(law);
-            if (!hasThing(hidden) || judge.holds(law, BARS) || older > MOST_OF_TERM[AGE]) {
+            int older = term[AGE] + judge.yearsBy(inForce);
+            if (!hasThing(hidden) || judge.holds(inForce, BARS) || older > MOST_OF_TERM[AGE]) {
                 return CANT_BE;
             }
             int plain = answerOf(q, hidden);
-            int turn = judge.holds(law, TURNS) ? 1 : 0;
+            int turn = judge.holds(inForce, TURNS) ? 1 : 0;
             known &= thingsAnswering(q, plain);
             term[AGE] = older;
             asked[q] = Math.min(asked[q] + 1, MOST_ASKED);
@@ -1109,8 +1118,8 @@ public final class HutAnswers {
 
     /** Reckons sums and tests by the words as they were last looked at. */
     private static final class Judge {
-        /** No sum reaches it. */
-        static final int BROKEN = Integer.MIN_VALUE;
+        /** Beyond all sums. */
+        static final int BROKEN = -2000000000;
         private static final int LIMIT = 1000000000;
         private static final int DEEPEST = 64;
 
@@ -1269,7 +1278,7 @@ public final class HutAnswers {
         private static final int SEEN = ((1 << MOST_IN_ORDER) * MOST_TOTAL + 63) / 64;
 
         private final Judge judge = new Judge();
-        private Hut hut;
+        private Hut hut = new Hut();
         private Text law;
         int least;
         int first;

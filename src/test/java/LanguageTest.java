@@ -310,6 +310,8 @@ public final class LanguageTest {
         due("12: 6 + 2 - 1", x.count(4), 24);
         due("12: done counts each time", Due.orders(x, "pour 1 times 3;pour done"), 4);
         due("12: 3 + 3", x.count(4), 30);
+        due("12: asked of each", Due.orders(x, "ask 0;pour asked 1;pour asked 0"), 3);
+        due("12: 2 + 1", x.count(4), 33);
     }
 
     private static void whollyOrNotAtAll() {

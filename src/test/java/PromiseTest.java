@@ -20,6 +20,7 @@ public final class PromiseTest {
         odds();
         worst();
         worstByLaw();
+        full();
         mean();
         heap();
         apart();
@@ -30,6 +31,7 @@ public final class PromiseTest {
         share();
         compare();
         huts();
+        hutsOfOneKind();
         drawn();
         imageAndBack();
         count();
@@ -193,16 +195,21 @@ public final class PromiseTest {
     private static void rowAndHens() {
         HutAnswers x = new HutAnswers();
         due("9: empty", x.row(), -6);
-        Due.put(x, "\u0064\0\0\0" + "\u0063\1\1\2" + "\1\2\0\0" + "\0\0\u00ff\u00ff" + "\1\0");
+        Due.put(x, "\u0064\0\0\0" + "\u0063\1\3\2" + "\1\2\0\0" + "\0\0\u00ff\u00ff" + "\1\0");
         due("9: two came", x.row(), 2);
         due("10: three hens", x.hens(), 3);
         due("9: the tape is empty", x.count(7), 0);
         due("9: answers", x.count(1), 2);
         due("9: refused", x.row(), -6);
         due("10: as of the one not refused", x.hens(), 3);
-        x.thing(1);
-        x.thing(1);
-        due("9: 258 for thing 0", x.of(0, 6), 2);
+        for (int i = 0; i < 5; i++) {
+            x.thing(1);
+        }
+        due("9: 99 years", x.of(0, 0), 99);
+        due("9: without", x.of(0, 1), 1);
+        due("9: within", x.of(1, 1), 0);
+        due("9: the second byte for thing 0", x.of(0, 6), 2);
+        due("9: the first byte for thing 4", x.of(0, 10), 3);
         due("9: 65535 for thing 1", x.of(1, 7), 3);
         Due.put(x, "\1\0\0\0\1\0\0\0\1\0\0\0\1\0\0\0\1\0\0\0\1\0\0\0\1\0\0\0");
         due("9: room for six", x.row(), 6);
@@ -351,6 +358,14 @@ public final class PromiseTest {
         due("20: hiding undone", x.undo(), 3);
         due("20: with what was asked", x.of(1, 2), 1);
         due("20: with what was known", x.known(0), 10);
+        x.terms(2, 40);
+        x.ask(2);
+        x.ask(2);
+        x.undo();
+        due("20: her age ahead of it", x.count(16), 46);
+        due("20: how often it was asked ahead of it", x.of(2, 2), 1);
+        x.undo();
+        due("20: her age ahead of that", x.count(16), 40);
     }
 
     private static void undoForgets(HutAnswers x) {
@@ -397,6 +412,7 @@ public final class PromiseTest {
         due("22: 0", x.odds(1, 0), 7);
         due("22: 1", x.odds(1, 1), 13);
         due("22: 2", x.odds(1, 2), 0);
+        due("22: 3", x.odds(2, 3), 10);
         Due.law(x, "turns if question>0;bars");
         x.force(0);
         due("22: turned, barred all the same", x.odds(1, 1), 7);
@@ -465,6 +481,43 @@ public final class PromiseTest {
         x.terms(2, 0);
         x.ask(0);
         due("23: from what is known", x.worst(-1, 0, 0), 2);
+    }
+
+    /** Eight things and as many questions; question q tells thing q from all others by a 3. */
+    private static HutAnswers eight() {
+        HutAnswers x = new HutAnswers();
+        for (int i = 0; i < 8; i++) {
+            x.thing(1 + i);
+            x.question(99 - i, 1, 3 << 2 * i);
+        }
+        return x;
+    }
+
+    private static void full() {
+        HutAnswers x = eight();
+        int allButOne = 92 + 93 + 94 + 95 + 96 + 97 + 98;
+        due("23: all but the dearest", x.worst(-1, 0, 0), allButOne);
+        due("25: all but the dearest at once", x.heap(0) * 1000 + x.heap(1), allButOne * 1000 + 254);
+        due("27: seven of 93 to 99 years", x.order(127, -1), 99 + 98 + 97 + 96 + 95 + 94 + 93);
+        due("27: the last", x.order(254, 6), 7);
+        x.terms(2, 9999 - 692);
+        due("27: seven of 99 would be too many", x.order(127, -1), 672);
+        Due.law(x, "ages 99");
+        x.force(0);
+        due("27: and are", x.order(127, -1), -1);
+        x.terms(2, 9999 - 693);
+        due("27: but for a year", x.order(127, -1), 693);
+        Due.law(x, "ages left");
+        x.force(1);
+        due("23: by 8, 7, 6, 5, 4, 3, 2", x.worst(-1, 1, 0), 35);
+        due("23: the lowest", x.worst(-1, 1, 1), 0);
+        due("24: the heavy one first", x.mean(-1, 0, 1), 7);
+        due("24: each one's years", x.mean(-1, 0, 0), 8 * 36 + 7 * 28 + 6 * 21 + 5 * 15 + 4 * 10 + 3 * 6 + 2 * 3);
+        due("25: seven times eight", x.heap(0) * 1000 + x.heap(1), 56 * 1000 + 127);
+        due("26: the lower of two", x.apart(6, 7), 6);
+        due("28: three times eight", x.guess(9306 - 24, 3, -1, 0), 512);
+        due("28: the last row", x.guess(9306 - 24, 3, 511, 0), 7);
+        due("28: its middle", x.guess(9306 - 24, 3, 510, 1), 7);
     }
 
     private static void mean() {
@@ -536,7 +589,8 @@ public final class PromiseTest {
         due("26: 0 and 1", x.apart(0, 1), 1);
         due("26: 0 and 2", x.apart(0, 2), 0);
         due("26: one thing", x.apart(1, 1), -1);
-        due("26: no such", x.apart(0, 4), -1);
+        due("26: no such", x.apart(3, 4), -1);
+        due("26: no such one", x.apart(4, 3), -1);
         due("26: below", x.apart(-1, 0), -1);
         Due.law(x, "ages 7 if question<2;bars");
         x.force(0);
@@ -675,7 +729,10 @@ public final class PromiseTest {
         due("31: none", x.huts(0, 0), -1);
         due("31: 41", x.huts(0, 41), -1);
         due("31: one", x.huts(0, 1), 1);
-        due("31: seed at most", x.status() + x.huts(1000000, 40) - x.huts(1000000, 40), 0);
+        x.huts(1000000, 40);
+        due("31: seed and visits at most", x.status(), 0);
+        due("31: the seed 7", x.huts(7, 1), 1);
+        due("32: draws 20066, 145077, 31796: thing 2 by questions 0 and 2", x.drawn(3) * 100 + x.drawn(0), 409);
         x.terms(0, 998);
         due("31: at day 999 it ends", x.huts(0, 40), 1);
         due("32: day 999", x.drawn(1), 999);
@@ -688,6 +745,23 @@ public final class PromiseTest {
         due("31: what is barred is not asked", x.huts(0, 3), 0);
         due("32: no older", x.drawn(0), 0);
         due("32: all known", x.drawn(3), 15);
+    }
+
+    private static void hutsOfOneKind() {
+        HutAnswers x = new HutAnswers();
+        x.thing(1);
+        x.question(1, 0, 0);
+        due("31: one thing is known at once", x.huts(3, 7), 7);
+        due("32: nothing is asked", x.drawn(0), 0);
+        x.thing(1);
+        due("31: alike for ever", x.huts(3, 7), 0);
+        due("32: eight questions a visit", x.drawn(0), 56);
+        due("32: eight in the last", x.drawn(4), 8);
+        x.terms(2, 9989);
+        x.huts(3, 7);
+        due("32: her age ends the asking", x.drawn(0), 9999);
+        due("32: the days go on", x.drawn(1), 7);
+        due("32: none in the last", x.drawn(4), 0);
     }
 
     private static void drawn() {
@@ -783,6 +857,7 @@ public final class PromiseTest {
         x.thing(0);
         x.force(5);
         x.back(0);
+        x.hide(9);
         x.ask(0);
         x.undo();
         x.pass();
@@ -797,7 +872,7 @@ public final class PromiseTest {
         x.end(-5);
         x.worst(-5, 0, 0);
         due("35: by -1", x.count(8), 1);
-        due("35: by -2", x.count(9), 2);
+        due("35: by -2", x.count(9), 3);
         due("35: by -3", x.count(10), 2);
         due("35: by -5", x.count(11), 1);
         due("35: by -6", x.count(12), 3);

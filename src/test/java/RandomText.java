@@ -23,6 +23,13 @@ final class RandomText {
         return whole();
     }
 
+    /** A law by which it matters much in what order she is asked. */
+    String aging() {
+        String ages = "ages [age*" + (1 + below(20)) + "+question*" + below(50) + "+asked*" + below(9) + "]%"
+                + (2 + below(110));
+        return below(2) == 0 ? ages : ages + ";bars if age%" + (2 + below(9)) + "=question";
+    }
+
     String orders() {
         orders = true;
         return whole();
