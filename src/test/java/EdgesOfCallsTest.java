@@ -31,6 +31,7 @@ public final class EdgesOfCallsTest {
         orderPlaces();
         orderOfSeven();
         orderByAge();
+        orderAmongAllRows();
         guessNumbers();
         guessRows();
         guessByLaw();
@@ -715,6 +716,44 @@ public final class EdgesOfCallsTest {
         due("27: 9,999 then one more year", y.order(3, -1), -1);
     }
 
+    /** Every row of seven, by laws under which it matters much in what order she is asked. */
+    private static void orderAmongAllRows() {
+        for (int n = 0; n < 120; n++) {
+            int[] law = {1 + n * 7 % 19, 1 + n * 13 % 47, 11 + n * 31 % 90};
+            HutAnswers x = Scenes.plain(1, 8);
+            String ages = "ages [age*" + law[0] + "+question*" + law[1] + "]%" + law[2];
+            due("27: " + ages, Due.law(x, ages), 0);
+            x.force(0);
+            for (int questions : new int[] {127, 254, 0b10111101, 0b01010101}) {
+                for (int age : new int[] {0, 33, 9999 - 3 * law[2]}) {
+                    x.terms(2, age);
+                    int[] best = {-1, 0};
+                    tryRows(law, questions, age, age, 0, best);
+                    due("27: years by " + ages + " of " + questions + " from " + age, x.order(questions, -1), best[0]);
+                    int row = 0;
+                    for (int i = 0; i < Integer.bitCount(questions) && best[0] >= 0; i++) {
+                        row = row * 10 + x.order(questions, i) + 1;
+                    }
+                    due("27: row by " + ages + " of " + questions + " from " + age, row, best[1]);
+                }
+            }
+        }
+    }
+
+    /** Rows are told by digits, question 0 as 1; the first of the best stays. */
+    private static void tryRows(int[] law, int left, int from, int age, int row, int[] best) {
+        if (left == 0 && (best[0] < 0 || age - from < best[0])) {
+            best[0] = age - from;
+            best[1] = row;
+        }
+        for (int q = 0; q < 8; q++) {
+            int older = age + (age * law[0] + q * law[1]) % law[2];
+            if ((left >> q & 1) != 0 && older <= 9999) {
+                tryRows(law, left & ~(1 << q), from, older, row * 10 + q + 1, best);
+            }
+        }
+    }
+
     /** Promise 28: 'from an AGE 0 .. 9,999, k 0 .. 3: how many rows (i NONE), of the i-th the QUESTION at a place.' */
     private static void guessNumbers() {
         HutAnswers x = Scenes.plain(0, 2);
@@ -834,6 +873,8 @@ public final class EdgesOfCallsTest {
         due("29: now it is there", y.share(0) * 1000 + y.share(1), 210030);
         Due.law(y, "bars;ages question*7+left");
         y.force(0);
+        y.visitor(0b10000);
+        due("29: whatever the law says of it, what is not there costs nothing", y.share(3), 0);
         due("29: barred or not, as she ages", y.share(0) * 10000 + y.share(1), (240 + 750) * 10000 + 750);
     }
 

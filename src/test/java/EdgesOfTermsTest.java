@@ -28,6 +28,7 @@ public final class EdgesOfTermsTest {
         hensOfRows();
         images();
         imagesKeepAllBut();
+        imagesThatHaveNothingInCommon();
         DUE.close("EdgesOfTermsTest");
     }
 
@@ -577,5 +578,67 @@ public final class EdgesOfTermsTest {
         due("IV: the tape is as it was", x.count(7), 6);
         due("IV: and is read as such", x.orders(), -3);
         due("IV: nothing can be undone", x.undo(), -3);
+    }
+
+    /** Another hut in each image: of none of them anything shows in the other. */
+    private static void imagesThatHaveNothingInCommon() {
+        HutAnswers x = new HutAnswers();
+        x.image(1);
+        one(x);
+        x.image(0);
+        Sight first = new Sight(x);
+        x.back(1);
+        due("IV: an empty one", x.count(0) + x.count(1) + x.count(2) + x.count(5), 0);
+        other(x);
+        x.image(1);
+        Sight second = new Sight(x);
+        for (int i = 0; i < 2; i++) {
+            x.back(0);
+            first.put("count(6)", 0);
+            first.hold(DUE, "IV: back to the first", new Sight(x));
+            x.back(1);
+            second.put("count(6)", 0);
+            second.hold(DUE, "IV: back to the second", new Sight(x));
+        }
+        x.back(0);
+        x.thing(50);
+        x.question(60, 1, 0);
+        due("IV: a question that comes behind was never asked", x.of(2, 2), 0);
+        due("IV: the things go on", x.known(1), 5 + 7 + 50);
+    }
+
+    private static void one(HutAnswers x) {
+        x.thing(5);
+        x.thing(7);
+        x.question(3, 1, Due.answers(0, 1));
+        x.question(4, 0, Due.answers(2, 1));
+        x.visitor(1);
+        x.visitor(3);
+        Due.law(x, "ages years*2+asked;turns if sort=1");
+        x.force(0);
+        x.hide(1);
+        x.ask(0);
+        x.pour(4);
+    }
+
+    private static void other(HutAnswers x) {
+        x.thing(11);
+        x.thing(13);
+        x.thing(17);
+        x.question(9, 0, Due.answers(1, 0, 3));
+        x.question(8, 1, Due.answers(0, 0, 1));
+        x.question(7, 1, Due.answers(2, 3, 3));
+        x.visitor(7);
+        x.visitor(2);
+        x.visitor(5);
+        Due.law(x, "ages 9-question");
+        Due.law(x, "ages years+5;bars if sort=0");
+        x.force(1);
+        x.terms(0, 77);
+        x.terms(1, 8);
+        x.terms(2, 99);
+        x.hide(2);
+        x.ask(2);
+        x.ask(1);
     }
 }

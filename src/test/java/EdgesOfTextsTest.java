@@ -30,6 +30,8 @@ public final class EdgesOfTextsTest {
         eachTimeItsIfIsAsked();
         runsAndStops();
         textsThatAreRead();
+        manyTexts();
+        bytesBehindTheEnd();
         DUE.close("EdgesOfTextsTest");
     }
 
@@ -763,5 +765,50 @@ public final class EdgesOfTextsTest {
         due("13: of the latest orders", x.fault(), 3);
         due("11: no room", Due.law(x, "bars"), -5);
         due("13: a law without room reads none", x.fault(), 3);
+    }
+
+    /** No text leaves anything for the next one, however many are read. */
+    private static void manyTexts() {
+        HutAnswers x = Scenes.plain(1, 1);
+        x.image(0);
+        for (int i = 0; i < 20; i++) {
+            due("11: a long law", Due.law(x, "ages 1" + "+1".repeat(48) + "+" + i), 0);
+            x.force(0);
+            due("11: all of it counts", x.of(0, 3), 49 + i);
+            due("12: orders", Due.orders(x, "pass if 1" + "+1".repeat(47) + "=48-[" + i + "-" + i + "];pass"), -6);
+            due("13: one part too many", x.fault(), 109 + String.valueOf(i).length());
+            due("12: orders", Due.orders(x, "pass if 1" + "+1".repeat(46) + "=47-[" + i + "-" + i + "];pass"), 2);
+            x.back(0);
+        }
+    }
+
+    /** Promise 8: 'its first n bytes alone': what stood behind them is no part of any text. */
+    private static void bytesBehindTheEnd() {
+        String law = "ages [1+[day*20]]-tea%7 if not (1=1 or (2<3 and 10>9)) and left=100;turns ; bars if mood<5";
+        String run = "pour [1+tea]*2 times 10 if not (1=1 and asked 7<1000);hide [0-1];pass times 2;ask asked 3";
+        for (int n = 0; n <= law.length(); n++) {
+            HutAnswers x = new HutAnswers();
+            Due.put(x, law);
+            due("8: end(" + n + ")", x.end(n), n);
+            x.law();
+            due("13: fault of the first " + n + " bytes of a law", x.fault(), new PlainText(law.substring(0, n), false).fault);
+        }
+        for (int n = 0; n <= run.length(); n++) {
+            HutAnswers x = new HutAnswers();
+            Due.put(x, run);
+            x.end(n);
+            x.orders();
+            due("13: fault of the first " + n + " bytes of orders", x.fault(), new PlainText(run.substring(0, n), true).fault);
+        }
+        HutAnswers x = new HutAnswers();
+        Due.put(x, "ages [1]");
+        x.end(7);
+        due("11: without its last byte", x.law() * 10 - x.fault(), -67);
+        Due.put(x, "ages 100");
+        x.end(7);
+        due("11: it is ten", x.law(), 0);
+        x.question(1, 0, 0);
+        x.force(0);
+        due("11: ten years", x.of(0, 3), 10);
     }
 }
